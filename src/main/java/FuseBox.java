@@ -467,13 +467,15 @@ public final class FuseBox {
             return BAD;
         }
         trial.become(now);
+        // The limit of USED is the house's own: what is used in these minutes alone never comes near it.
+        trial.used = 0;
         long x = seed;
         for (int i = 0; i < n; i++) {
             x = x * 16807 % 2147483647;
             trial.draw(x);
             trial.passMinute();
         }
-        return what == 0 ? trial.used - now.used : Integer.bitCount(trial.liveLines());
+        return what == 0 ? trial.used : Integer.bitCount(trial.liveLines());
     }
 
     public int image(int k) {
@@ -1148,7 +1150,7 @@ public final class FuseBox {
         }
 
         private void weigh() {
-            int more = Math.min(usedThen(), MOST_USED - house.used);
+            int more = usedThen();
             if (more > most) {
                 most = more;
                 System.arraycopy(way, 0, best, 0, MOST_THINGS);

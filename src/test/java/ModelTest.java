@@ -23,12 +23,44 @@ public final class ModelTest {
         model = new PlainModel();
         due.at("run " + number);
         int call = 0;
+        if (number % 25 == 7) {
+            muchUsed(call);
+            return;
+        }
         if (number % 10 != 0) {
             call += house();
         }
         while (call < CALLS) {
             call += random.nextInt(60) == 0 ? house() : random.nextInt(150) == 0 ? brokenHouse() : one(number % 2);
         }
+    }
+
+    /** One house that uses 55 to 60 a minute until USED is near its limit, and then is foretold, changed, put back. */
+    private void muchUsed(int call) {
+        String[] texts = {"m60;b20;b20;b20;t0,20,1;t1,20,1;t2,20,1;", "m60;w20;s20;b15;t0,20,1;t1,20,1;t2,9,1;t2,6,1;t0,3,0;"};
+        call += feed(texts[below(2)]);
+        int days = 69 + below(8);
+        for (int i = 0; i < days; i++, call++) {
+            due.is("minutes(24)", box.minutes(24), model.minutes(24));
+        }
+        due.is("image(0)", box.image(0), model.image(0));
+        for (call++; call < CALLS; call++) {
+            if (below(20) == 0) {
+                due.is("restore(0)", box.restore(0), model.restore(0));
+            } else if (below(8) == 0) {
+                usedMore();
+            } else {
+                one(1);
+            }
+        }
+    }
+
+    private void usedMore() {
+        int n = about(1, 12), t = about(-1, 4), m = about(0, 60), s = about(1, 999999);
+        due.is("plugs(" + n + ", " + t + ")", box.plugs(n, t), model.plugs(n, t));
+        due.is("drawn(" + m + ", " + s + ", 0)", box.drawn(m, s, 0), model.drawn(m, s, 0));
+        due.is("later(" + m + ", 2)", box.later(m, 2), model.later(m, 2));
+        due.is("count(7)", box.count(7), model.count(7));
     }
 
     private int below(int n) {

@@ -139,6 +139,18 @@ final class PlainModel {
             return s;
         }
 
+        /** What is used in n minutes by themselves: the sum of the flows, without the limit of what the house keeps. */
+        int usedIn(int n) {
+            int sum = 0;
+            State s = this;
+            for (int i = 0; i < n; i++, s = s.next()) {
+                for (int l = 0; l < lines.size(); l++) {
+                    sum += s.flow(l);
+                }
+            }
+            return sum;
+        }
+
         State with(Consumer<State> change) {
             State s = same();
             change.accept(s);
@@ -442,7 +454,7 @@ final class PlainModel {
         State best = null;
         int most = -1;
         for (State w : ways) {
-            int used = w.after(n).used - house.used;
+            int used = w.usedIn(n);
             if (used > most) {
                 most = used;
                 best = w;
@@ -552,6 +564,7 @@ final class PlainModel {
         if (house == null) return STATE;
         if (out(n, 0, 60) || out(seed, 1, 999999) || out(what, 0, 1)) return BAD;
         State s = house.same();
+        int used = 0;
         long x = seed;
         for (int i = 0; i < n; i++) {
             x = x * 16807L % 2147483647L;
@@ -562,9 +575,10 @@ final class PlainModel {
                 for (Line l : s.lines) if (l.dead) s.mend(l);
                 s.in = true;
             }
+            used += s.usedIn(1);
             s = s.next();
         }
-        return what == 0 ? s.used - house.used : Integer.bitCount(s.liveBits());
+        return what == 0 ? used : Integer.bitCount(s.liveBits());
     }
 
     int image(int k) {

@@ -33,6 +33,7 @@ public final class PromiseTest {
         promise21();
         promise22();
         promise23();
+        plugsAtTheLimit();
         promise24();
         promise25();
         promise26();
@@ -40,6 +41,7 @@ public final class PromiseTest {
         sortsOfDeadLines();
         promise28();
         promise29();
+        drawnAtTheLimit();
         promise30();
         promise31();
         promise32();
@@ -440,12 +442,9 @@ public final class PromiseTest {
         is("USED", x.count(7), 99360);
         is("USED later", x.later(10, 2), 99960);
         is("99999 at most, later", x.later(11, 2), 99999);
-        is("what is USED more", x.plugs(12, -1), 639);
-        is("what is USED more", x.drawn(60, 1, 0), 639);
         x.minutes(24);
         is("99999 at most", x.count(7), 99999);
-        is("no more", x.plugs(1, -1), 0);
-        is("the first then", x.plugs(1, 2), 0);
+        is("no more", x.later(1, 2), 99999);
     }
 
     private static void promise10() {
@@ -525,6 +524,7 @@ public final class PromiseTest {
         is("ACTS", x.count(8), 2);
         is("lost(0)", x.lost(0), NONE);
         is("the same is told, too", x.rate(0, 20), 20);
+        is("and is an ACT", x.count(8), 3);
     }
 
     private static void promise15() {
@@ -771,6 +771,34 @@ public final class PromiseTest {
         is("the 6 into the dead one", x.plugs(12, 0) * 10 + x.plugs(12, 1), 10);
     }
 
+    /** Three breakers, each with as much as it bears: 60 a minute, until USED of the house is as told. */
+    private static FuseBox muchUsed(int minutes) {
+        FuseBox x = Due.box("m60;b20;b20;b20;t0,20,1;t1,20,1;t2,20,1;");
+        for (int left = minutes; left > 0; left -= 24) {
+            x.minutes(Math.min(24, left));
+        }
+        return x;
+    }
+
+    private static void plugsAtTheLimit() {
+        at("promise 23, USED of the house at its limit");
+        int[] minutes = {1655, 1666, 1667, 1700};
+        int[] used = {99300, 99960, 99999, 99999};
+        for (int i = 0; i < minutes.length; i++) {
+            FuseBox x = muchUsed(minutes[i]);
+            is("USED", x.count(7), used[i]);
+            is("one minute", x.plugs(1, -1), 60);
+            is("all into the first", x.plugs(1, 0) * 100 + x.plugs(1, 1) * 10 + x.plugs(1, 2), 0);
+            is("two", x.plugs(2, -1), 120);
+            is("one each, the first such way", x.plugs(2, 0) * 100 + x.plugs(2, 1) * 10 + x.plugs(2, 2), 12);
+            is("twelve", x.plugs(12, -1), 720);
+            is("one each", x.plugs(12, 0) * 100 + x.plugs(12, 1) * 10 + x.plugs(12, 2), 12);
+            x.plug(2, 0);
+            is("also as all is plugged badly", x.plugs(12, 2), 2);
+            is("nothing changes", x.count(7), used[i]);
+        }
+    }
+
     private static void promise24() {
         at("promise 24");
         FuseBox x = Due.box("m60;w5;b5;t0,8,1;t1,6,1;");
@@ -965,6 +993,26 @@ public final class PromiseTest {
         is("BAD", x.drawn(1, 1, 2), BAD);
         is("BAD", x.drawn(1, 1, -1), BAD);
         DUE.holds("the largest seed", x.drawn(60, 999999, 0) >= 0);
+    }
+
+    private static void drawnAtTheLimit() {
+        at("promise 29, USED of the house at its limit");
+        int[] minutes = {1655, 1666, 1667, 1700};
+        int[] used = {99300, 99960, 99999, 99999};
+        for (int i = 0; i < minutes.length; i++) {
+            FuseBox x = muchUsed(minutes[i]);
+            is("USED", x.count(7), used[i]);
+            is("none", x.drawn(0, 1, 0), 0);
+            is("one", x.drawn(1, 1, 0), 60);
+            // Nothing is turned in the first five from 1 on, see above; 50421, from 3, turns thing 0 off.
+            is("five", x.drawn(5, 1, 0), 300);
+            is("LIVE", x.drawn(5, 1, 1), 3);
+            is("one turned off", x.drawn(1, 3, 0), 40);
+            is("nothing changes", x.count(7), used[i]);
+        }
+        FuseBox x = muchUsed(1700);
+        x.plug(2, 0);
+        is("behind the first line 0 is DEAD: 60, then 20 each", x.drawn(4, 1, 0), 120);
     }
 
     private static void promise30() {
