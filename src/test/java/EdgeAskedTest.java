@@ -8,6 +8,7 @@ public final class EdgeAskedTest {
     public static void main(String[] args) {
         newObject();
         objectsByThemselves();
+        upTo512Calls();
         kinds();
         takenAs();
         sizes();
@@ -64,6 +65,21 @@ public final class EdgeAskedTest {
         y.minutes(2);
         is("the other is as it was", x.count(3) * 100 + x.line(0, 1) * 10 + x.status(), 391);
         is("its trace", x.trace(0), 11);
+    }
+
+    private static void upTo512Calls() {
+        at("An object is used for at most 512 calls after it has been made");
+        FuseBox x = Due.box("m60;w5;t0,8,1;");
+        // 14 bytes and house() are 15 calls.
+        for (int call = 16; call <= 511; call++) {
+            is("turn, call " + call, x.turn(0, call % 2), call % 2);
+        }
+        is("the 512th", x.count(8), 24);
+        FuseBox y = new FuseBox();
+        for (int call = 1; call <= 511; call++) {
+            is("row, call " + call, y.row(call % 8, call % 3, call % 41), call % 41);
+        }
+        is("the 512th", y.count(0), 8);
     }
 
     private static final String[] HOUSES = {"m60;w5;s5;q5;b5;t0,1,1;", "m60;c5;w5;s5;q5;t0,1,1;", "m60;b5;c5;w5;s5;t0,1,1;", "m60;c1;t0,1,1;"};

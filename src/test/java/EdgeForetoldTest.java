@@ -19,6 +19,7 @@ public final class EdgeForetoldTest {
         shedNone();
         plugsMinutes();
         plugsFirst();
+        plugsBehindMain();
         plugsOfNone();
         holdsLeast();
         holdsMinutes();
@@ -239,6 +240,27 @@ public final class EdgeForetoldTest {
         plugs(x, 12, 492, 0, 2, 1, 2);
         x = Due.box("m60;b5;b20;t0,20,1;t0,5,1;");
         plugs(x, 12, 300, 1, 0);
+        // 12 on line 0 melts it behind five minutes, just as long as this matters not.
+        x = Due.box("m60;w10;w4;t1,8,1;t0,4,1;");
+        plugs(x, 5, 60, 0, 0);
+        plugs(x, 6, 72, 0, 1);
+    }
+
+    private static void plugsBehindMain() {
+        at("PLUGS, FLOW of all LINES together just MAIN, and 1 above it");
+        String lines = "m60;b20;b20;b20;b20;";
+        plugs(Due.box(lines + "t0,20,1;t0,20,1;t0,20,1;"), 12, 720, 0, 1, 2);
+        plugs(Due.box(lines + "t0,20,1;t0,20,1;t0,20,1;t0,1,1;"), 12, 61, 0, 0, 0, 0);
+        plugs(Due.box("m1;b20;t0,1,1;"), 12, 12, 0);
+        plugs(Due.box("m1;b20;t0,2,1;"), 12, 2, 0);
+        // Line 1 is DEAD: what is plugged into it lets the others be just MAIN, or 1 above it.
+        FuseBox x = after("m10;b20;b1;t1,6,1;t0,10,0;t0,1,0;", 1);
+        x.turn(1, 1);
+        plugs(x, 12, 120, 1, 0, 0);
+        x.turn(2, 1);
+        plugs(x, 12, 120, 1, 0, 1);
+        // The wire melts behind three minutes; then what is left is just MAIN, or 1 above it: but MAIN is out by then.
+        plugs(Due.box("m12;w1;b12;t0,4,1;t1,12,1;"), 12, 16, 0, 0);
     }
 
     private static void plugsOfNone() {

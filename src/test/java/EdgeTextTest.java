@@ -13,6 +13,7 @@ public final class EdgeTextTest {
         bytes();
         nothingElse();
         lettersByThemselves();
+        oneTokenOtherwise();
         twoFiguresAtMost();
         mains();
         rates();
@@ -114,6 +115,37 @@ public final class EdgeTextTest {
         faulty("mm9;", 1, 1);
         faulty("m9;w8;tt0,7,1;", 7, 1);
         faulty("m9;ww8;", 4, 1);
+    }
+
+    private static void oneTokenOtherwise() {
+        at("FAULT 1: it cannot stand there; a TOKEN too few, too many, another");
+        int[] without = {0, 1, 2, 3, 4, 5, 6, 7, 7, 9, 9, 11, 12};
+        int[] faultWithout = {1, 1, 1, 1, 1, 1, 1, 1, 2, 1, 2, 1, 1};
+        int[] twice = {1, 1, 3, 4, 4, 6, 7, -1, 9, 9, 11, 11, 13};
+        int[] faultTwice = {1, 2, 1, 1, 2, 1, 1, 0, 1, 2, 1, 2, 1};
+        for (int i = 0; i < PLAIN.length(); i++) {
+            String ahead = PLAIN.substring(0, i);
+            String behind = PLAIN.substring(i + 1);
+            char token = PLAIN.charAt(i);
+            faulty(ahead + behind, without[i], faultWithout[i]);
+            // Only LINE may be told as 00.
+            read(ahead + token + token + behind, twice[i] < 0 ? 1 : -1000100 - twice[i], faultTwice[i]);
+            for (char other : ",;mwtz".toCharArray()) {
+                if (other != token && !(other == 't' && i == 3) && !(other == 'w' && i == 6)) {
+                    faulty(ahead + other + behind, i, 1);
+                }
+            }
+        }
+        faulty("m9;t8;t0,7,1;", 3, 1);
+        faulty("m9;w8;w0,7,1;", 7, 2);
+        faulty("m9;w8;w1,7,1;", 8, 1);
+        // A figure in place of a letter or sign; behind a number it makes that longer: too large, or a run of three.
+        int[] places = {0, 2, 3, 5, 6, 8, 10, 12};
+        int[] faultAt = {0, 1, 3, 4, 6, 7, 9, 11};
+        int[] faults = {1, 2, 1, 2, 1, 1, 1, 2};
+        for (int i = 0; i < places.length; i++) {
+            faulty(PLAIN.substring(0, places[i]) + "9" + PLAIN.substring(places[i] + 1), faultAt[i], faults[i]);
+        }
     }
 
     private static void twoFiguresAtMost() {
@@ -297,6 +329,7 @@ public final class EdgeTextTest {
         is("MAIN was out", x.count(5), 0);
         is("DEAD were", x.count(6), 6);
         is("HEAT was", x.line(0, 1) * 10 + x.line(3, 1), 32);
+        foretell(x);
         Due.feed(x, "m9;w5;b1;c1;s3;t0,8,1;t1,2,1;t2,2,1;t3,7,1;");
         is("house()", x.house(), 4);
         is("MINUTE", x.count(3), 0);
@@ -312,6 +345,13 @@ public final class EdgeTextTest {
         }
     }
 
+    /** What is foretold happens nowhere, so that a house that is read then knows nothing of it. */
+    private static void foretell(FuseBox x) {
+        x.drawn(60, 5, 0);
+        x.chance(0, 60, 5, 0);
+        DUE.holds("USED", x.later(2, 2) > 0);
+    }
+
     private static void nothingLeftBehind() {
         at("A HOUSE that is read stands in place of the one before, a smaller one, a larger one");
         FuseBox x = Due.box("m60;w1;w1;w1;w1;t0,20,1;t1,20,1;t2,1,1;t3,2,1;t3,1,1;t3,1,1;");
@@ -325,8 +365,12 @@ public final class EdgeTextTest {
         is("things of line 0", x.line(0, 5), 1);
         is("KIND", x.kind(0), 5);
         is("LIVE", x.minutes(1), 1);
+        x.restore(0);
+        foretell(x);
         Due.feed(x, "m4;q2;b3;s4;c5;t3,1,0;t2,2,0;t1,3,0;t0,4,0;t0,5,0;t0,6,0;");
         is("house()", x.house(), 4);
+        is("MINUTE, USED, DEAD", x.count(3) + x.count(7) + x.count(6), 0);
+        is("MAIN is in", x.count(5), 1);
         for (int l = 0; l < 4; l++) {
             is("RATE", x.line(l, 0), l + 2);
             is("HEAT", x.line(l, 1), 0);
