@@ -29,6 +29,7 @@ public final class EdgeTextTest {
         inPlaceOfTheOneBefore();
         nothingLeftBehind();
         latestFault();
+        eachTextByItself();
         DUE.end();
     }
 
@@ -402,5 +403,27 @@ public final class EdgeTextTest {
             is("behind " + texts[i], x.fault(), faults[i]);
         }
         is("asked again", x.fault(), 1);
+    }
+
+    private static void eachTextByItself() {
+        at("The tape, empty then, is read: nothing of a text before it is");
+        String[] texts = {"", "m", "m9", "m9;", "m9;m", "m9;w", "m9;w1", "m9;w1;", "m9;w1;t", "m9;w1;t0", "m9;w1;t0,", "m9;w1;t0,1,1",
+            "9", "?", ";", ",", "t", "w", "?9;w1;t0,1,1;", "9;w1;t0,1,1;", ";w1;t0,1,1;", "w1;t0,1,1;", "m?;w1;t0,1,1;", "m9?w1;t0,1,1;",
+            "m9;?1;t0,1,1;", "m9;w1;?0,1,1;", "m9;w1;t0,1,1?", "m99", "m999", "m9;w1;w1;w1;w1;w", PLAIN};
+        for (String before : texts) {
+            for (String text : texts) {
+                FuseBox alone = new FuseBox();
+                Due.feed(alone, text);
+                FuseBox x = new FuseBox();
+                Due.feed(x, before);
+                x.house();
+                Due.feed(x, text);
+                int want = alone.house();
+                is("house() of " + text + " behind " + before, x.house(), want);
+                if (want < 0) {
+                    is("fault() of " + text + " behind " + before, x.fault(), alone.fault());
+                }
+            }
+        }
     }
 }

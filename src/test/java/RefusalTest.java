@@ -35,56 +35,6 @@ public final class RefusalTest {
         DUE.end();
     }
 
-    // ---- boxes in which much can be told apart
-
-    private static void fill(FuseBox x, int row, int lane, int n) {
-        x.row(row, lane, n);
-        for (int i = 0; i < 10 && i < n; i++) {
-            x.set(row, i, (i * 3 + row) % 10);
-        }
-        for (int i = 10; i < n; i += 10) {
-            x.copy(row, i - 10, row, i, Math.min(10, n - i));
-        }
-    }
-
-    /** Rows of all lanes, a fault, an image, acts, a trace, bytes on the tape, line 1 dead; status() is 2. */
-    private static FuseBox box(String text) {
-        FuseBox x = new FuseBox();
-        Due.feed(x, "m9;w0");
-        x.house();
-        Due.feed(x, text);
-        x.house();
-        fill(x, 0, 0, 12);
-        fill(x, 1, 1, 40);
-        fill(x, 2, 2, 40);
-        fill(x, 3, 2, 0);
-        fill(x, 4, 0, 40);
-        fill(x, 6, 1, 3);
-        x.image(0);
-        x.minutes(2);
-        x.turn(0, 0);
-        x.turn(0, 1);
-        x.rate(0, 7);
-        x.minutes(1);
-        x.ask(0, 0);
-        x.feed('m');
-        x.feed('7');
-        x.set(0, 12, 0);
-        return x;
-    }
-
-    private static FuseBox some() {
-        return box("m30;w5;b4;c3;t0,8,1;t1,5,1;t2,2,1;t0,2,0;t1,1,1;");
-    }
-
-    private static FuseBox all() {
-        return box("m60;w5;b4;c3;q9;t0,8,1;t1,5,1;t2,2,1;t0,2,0;t3,1,1;t3,4,1;");
-    }
-
-    private static FuseBox mainOut() {
-        return box("m5;w5;b4;t0,8,1;t1,5,1;");
-    }
-
     // ---- what is refused changes nothing
 
     private static void same(String call, List<String> got, List<String> want) {
@@ -133,13 +83,13 @@ public final class RefusalTest {
 
     private static void everyRange() {
         DUE.at("the ends of each number, with 3 LINES and 5 THINGS");
-        rangesOfHouse(RefusalTest::some, 2, 4);
+        rangesOfHouse(Boxes::some, 2, 4);
         DUE.at("the ends of each number, with 4 LINES and 6 THINGS");
-        rangesOfHouse(RefusalTest::all, 3, 5);
+        rangesOfHouse(Boxes::all, 3, 5);
         DUE.at("the ends of each number, MAIN out");
-        rangesOfHouse(RefusalTest::mainOut, 1, 1);
+        rangesOfHouse(Boxes::mainOut, 1, 1);
         DUE.at("the ends of each number, without a LINE or THING");
-        for (Supplier<FuseBox> made : List.<Supplier<FuseBox>>of(RefusalTest::some, FuseBox::new)) {
+        for (Supplier<FuseBox> made : List.<Supplier<FuseBox>>of(Boxes::some, FuseBox::new)) {
             range("feed", made, (x, a) -> x.feed(a[0]), 0, 255);
             range("image", made, (x, a) -> x.image(a[0]), 0, 1);
             range("restore", made, (x, a) -> x.restore(a[0]), 0, 1);
@@ -149,12 +99,12 @@ public final class RefusalTest {
             range("copy of rows", made, (x, a) -> x.copy(a[0], 0, a[1], 0, 0), 0, 7, 0, 7);
             range("row", made, (x, a) -> x.row(a[0], a[1], 1), 0, 7, 0, 2);
         }
-        range("minutes", RefusalTest::some, (x, a) -> x.minutes(a[0]), 1, 24);
-        range("later", RefusalTest::some, (x, a) -> x.later(a[0], a[1]), 0, 60, 0, 2);
-        range("drawn", RefusalTest::some, (x, a) -> x.drawn(a[0], a[1], a[2]), 0, 60, 1, 999999, 0, 1);
+        range("minutes", Boxes::some, (x, a) -> x.minutes(a[0]), 1, 24);
+        range("later", Boxes::some, (x, a) -> x.later(a[0], a[1]), 0, 60, 0, 2);
+        range("drawn", Boxes::some, (x, a) -> x.drawn(a[0], a[1], a[2]), 0, 60, 1, 999999, 0, 1);
         // n below 0 is found, not BAD, so its lower end is not looked at here.
         for (int n : new int[] {41, 42, LARGEST}) {
-            refused(text("row", 0, 0, n), RefusalTest::some, BAD, (x, a) -> x.row(0, 0, a[0]), n);
+            refused(text("row", 0, 0, n), Boxes::some, BAD, (x, a) -> x.row(0, 0, a[0]), n);
             refused(text("row", 5, 2, n), FuseBox::new, BAD, (x, a) -> x.row(5, 2, a[0]), n);
         }
     }
@@ -253,21 +203,21 @@ public final class RefusalTest {
         refused("restore(2)", FuseBox::new, BAD, (x, a) -> x.restore(2));
         refused("restore(-1)", FuseBox::new, BAD, (x, a) -> x.restore(-1));
         refused("mend(3), as none is DEAD", () -> Due.box("m9;w1;b1;c1;t0,1,0;"), BAD, (x, a) -> x.mend(3));
-        refused("turn(5, 1)", RefusalTest::some, BAD, (x, a) -> x.turn(5, 1));
-        refused("plug(0, 3)", RefusalTest::some, BAD, (x, a) -> x.plug(0, 3));
-        refused("plug(5, 0)", RefusalTest::some, BAD, (x, a) -> x.plug(5, 0));
-        refused("row(8, 0, -1)", RefusalTest::some, BAD, (x, a) -> x.row(8, 0, -1));
-        refused("row(0, 3, -1)", RefusalTest::some, BAD, (x, a) -> x.row(0, 3, -1));
-        refused("set(8, -1, 0)", RefusalTest::some, BAD, (x, a) -> x.set(8, -1, 0));
-        refused("copy of a missing row, BAD b", RefusalTest::some, BAD, (x, a) -> x.copy(5, 0, 8, 0, 1));
-        refused("copy to a missing row, BAD a", RefusalTest::some, BAD, (x, a) -> x.copy(-1, 0, 5, 0, 1));
-        refused("copy of no place, BAD b", RefusalTest::some, BAD, (x, a) -> x.copy(0, -1, 8, -1, -1));
-        refused("fits of a missing row, BAD line", RefusalTest::some, BAD, (x, a) -> x.fits(3, 5, 0, 1, 0));
-        refused("fits of a missing row, BAD n", RefusalTest::some, BAD, (x, a) -> x.fits(0, 5, 0, 13, 0));
-        refused("fits of a missing row, BAD what", RefusalTest::some, BAD, (x, a) -> x.fits(0, 5, 0, 1, 5));
-        refused("fits of no place, BAD n", RefusalTest::some, BAD, (x, a) -> x.fits(0, 0, 12, 0, 0));
-        refused("fits of no place, BAD what", RefusalTest::some, BAD, (x, a) -> x.fits(0, 0, -1, 1, -1));
-        refused("as of no such KIND, BAD line", RefusalTest::some, BAD, (x, a) -> x.as(3, 5));
+        refused("turn(5, 1)", Boxes::some, BAD, (x, a) -> x.turn(5, 1));
+        refused("plug(0, 3)", Boxes::some, BAD, (x, a) -> x.plug(0, 3));
+        refused("plug(5, 0)", Boxes::some, BAD, (x, a) -> x.plug(5, 0));
+        refused("row(8, 0, -1)", Boxes::some, BAD, (x, a) -> x.row(8, 0, -1));
+        refused("row(0, 3, -1)", Boxes::some, BAD, (x, a) -> x.row(0, 3, -1));
+        refused("set(8, -1, 0)", Boxes::some, BAD, (x, a) -> x.set(8, -1, 0));
+        refused("copy of a missing row, BAD b", Boxes::some, BAD, (x, a) -> x.copy(5, 0, 8, 0, 1));
+        refused("copy to a missing row, BAD a", Boxes::some, BAD, (x, a) -> x.copy(-1, 0, 5, 0, 1));
+        refused("copy of no place, BAD b", Boxes::some, BAD, (x, a) -> x.copy(0, -1, 8, -1, -1));
+        refused("fits of a missing row, BAD line", Boxes::some, BAD, (x, a) -> x.fits(3, 5, 0, 1, 0));
+        refused("fits of a missing row, BAD n", Boxes::some, BAD, (x, a) -> x.fits(0, 5, 0, 13, 0));
+        refused("fits of a missing row, BAD what", Boxes::some, BAD, (x, a) -> x.fits(0, 5, 0, 1, 5));
+        refused("fits of no place, BAD n", Boxes::some, BAD, (x, a) -> x.fits(0, 0, 12, 0, 0));
+        refused("fits of no place, BAD what", Boxes::some, BAD, (x, a) -> x.fits(0, 0, -1, 1, -1));
+        refused("as of no such KIND, BAD line", Boxes::some, BAD, (x, a) -> x.as(3, 5));
     }
 
     private static void rowFindings() {
@@ -275,7 +225,7 @@ public final class RefusalTest {
         for (int row = 0; row < 8; row++) {
             for (int n : new int[] {-1, -41, LEAST}) {
                 int[] a = {row, row % 3, n};
-                refused(text("row", a), RefusalTest::some, SIZE, (x, b) -> x.row(b[0], b[1], b[2]), a);
+                refused(text("row", a), Boxes::some, SIZE, (x, b) -> x.row(b[0], b[1], b[2]), a);
             }
         }
     }
@@ -284,20 +234,20 @@ public final class RefusalTest {
         DUE.at("set: NULL; PLACE");
         Call set = (x, a) -> x.set(a[0], a[1], 9);
         for (int i : new int[] {0, -1, 40, LEAST, LARGEST}) {
-            refused(text("set", 5, i), RefusalTest::some, NULL, set, 5, i);
-            refused(text("set", 7, i), RefusalTest::some, NULL, set, 7, i);
+            refused(text("set", 5, i), Boxes::some, NULL, set, 5, i);
+            refused(text("set", 7, i), Boxes::some, NULL, set, 7, i);
         }
         int[][] sizes = {{0, 12}, {1, 40}, {2, 40}, {3, 0}, {4, 40}, {6, 3}};
         for (int[] s : sizes) {
             for (int i : new int[] {-1, s[1], s[1] + 1, LEAST, LARGEST}) {
-                refused(text("set", s[0], i), RefusalTest::some, PLACE, set, s[0], i);
+                refused(text("set", s[0], i), Boxes::some, PLACE, set, s[0], i);
             }
         }
     }
 
     private static void copies(int answer, int[]... calls) {
         for (int[] a : calls) {
-            refused(text("copy", a), RefusalTest::some, answer, (x, b) -> x.copy(b[0], b[1], b[2], b[3], b[4]), a);
+            refused(text("copy", a), Boxes::some, answer, (x, b) -> x.copy(b[0], b[1], b[2], b[3], b[4]), a);
         }
     }
 
@@ -319,8 +269,8 @@ public final class RefusalTest {
 
     private static void dropFindings() {
         DUE.at("drop: NULL");
-        refused("drop(5)", RefusalTest::some, NULL, (x, a) -> x.drop(5));
-        refused("drop(7)", RefusalTest::some, NULL, (x, a) -> x.drop(7));
+        refused("drop(5)", Boxes::some, NULL, (x, a) -> x.drop(5));
+        refused("drop(7)", Boxes::some, NULL, (x, a) -> x.drop(7));
         refused("drop(0)", FuseBox::new, NULL, (x, a) -> x.drop(0));
     }
 
@@ -329,12 +279,12 @@ public final class RefusalTest {
         Call fits = (x, a) -> x.fits(0, a[0], a[1], a[2], a[3]);
         for (int what = 0; what < 5; what++) {
             for (int i : new int[] {0, -1, 40, LEAST, LARGEST}) {
-                refused(text("fits", 5, i, 1, what), RefusalTest::some, NULL, fits, 5, i, 1, what);
+                refused(text("fits", 5, i, 1, what), Boxes::some, NULL, fits, 5, i, 1, what);
             }
             int[][] places = {{0, -1, 1}, {0, 12, 1}, {0, 1, 12}, {0, 11, 2}, {3, 0, 1}, {2, 29, 12}, {2, 40, 1}, {6, 0, 4},
                 {2, LEAST, 1}, {2, LARGEST, 1}, {2, LARGEST, 12}, {2, LEAST, 12}, {2, -1, 12}, {2, -12, 12}};
             for (int[] p : places) {
-                refused(text("fits", p[0], p[1], p[2], what), RefusalTest::some, PLACE, fits, p[0], p[1], p[2], what);
+                refused(text("fits", p[0], p[1], p[2], what), Boxes::some, PLACE, fits, p[0], p[1], p[2], what);
             }
         }
     }
@@ -343,14 +293,14 @@ public final class RefusalTest {
         DUE.at("as: KIND");
         int[][] no = {{0, 2}, {0, 3}, {0, 4}, {0, 5}, {1, 1}, {1, 2}, {1, 3}, {1, 5}, {2, 1}, {2, 2}, {2, 3}, {3, 2}, {3, 4}, {3, 5}};
         for (int[] a : no) {
-            refused(text("as", a), RefusalTest::all, KIND, (x, b) -> x.as(b[0], b[1]), a);
+            refused(text("as", a), Boxes::all, KIND, (x, b) -> x.as(b[0], b[1]), a);
         }
     }
 
     // ---- tape, acts, images
 
     private static FuseBox fullTape() {
-        FuseBox x = some();
+        FuseBox x = Boxes.some();
         for (int i = 2; i < 90; i++) {
             x.feed(i);
         }
@@ -371,7 +321,7 @@ public final class RefusalTest {
         DUE.at("house: -1000100 less the place of a FAULT: all stays");
         String[] behind = {"", ";", ";w1;w1;w1;w1;w1;", ";w1;t0,1,1;t0,1,2;", ";b1;t1", "77"};
         int[] places = {2, 3, 15, 18, 7, 1};
-        for (Supplier<FuseBox> made : List.<Supplier<FuseBox>>of(RefusalTest::some, RefusalTest::all, RefusalTest::mainOut)) {
+        for (Supplier<FuseBox> made : List.<Supplier<FuseBox>>of(Boxes::some, Boxes::all, Boxes::mainOut)) {
             for (int i = 0; i < behind.length; i++) {
                 FuseBox x = made.get();
                 Due.feed(x, behind[i]);
@@ -391,19 +341,19 @@ public final class RefusalTest {
     private static void stateOfActs() {
         DUE.at("STATE of acts");
         Call turn = (x, a) -> x.turn(a[0], a[1]);
-        refused("turn(0, 1), it is on", RefusalTest::some, STATE, turn, 0, 1);
-        refused("turn(3, 0), it is off", RefusalTest::some, STATE, turn, 3, 0);
-        refused("turn(4, 1), it is on, its LINE is DEAD", RefusalTest::some, STATE, turn, 4, 1);
-        refused("turn(1, 1), it is on, MAIN is out", RefusalTest::mainOut, STATE, turn, 1, 1);
+        refused("turn(0, 1), it is on", Boxes::some, STATE, turn, 0, 1);
+        refused("turn(3, 0), it is off", Boxes::some, STATE, turn, 3, 0);
+        refused("turn(4, 1), it is on, its LINE is DEAD", Boxes::some, STATE, turn, 4, 1);
+        refused("turn(1, 1), it is on, MAIN is out", Boxes::mainOut, STATE, turn, 1, 1);
         Call plug = (x, a) -> x.plug(a[0], a[1]);
-        refused("plug(0, 0)", RefusalTest::some, STATE, plug, 0, 0);
-        refused("plug(2, 2)", RefusalTest::some, STATE, plug, 2, 2);
-        refused("plug(3, 0), it is off", RefusalTest::some, STATE, plug, 3, 0);
-        refused("plug(4, 1), the LINE is DEAD", RefusalTest::some, STATE, plug, 4, 1);
-        refused("mend(0)", RefusalTest::some, STATE, (x, a) -> x.mend(0));
-        refused("mend(2), a coil", RefusalTest::some, STATE, (x, a) -> x.mend(2));
-        refused("mend(0), not LIVE, but not DEAD", RefusalTest::mainOut, STATE, (x, a) -> x.mend(0));
-        refused("mains(), it is in", RefusalTest::some, STATE, (x, a) -> x.mains());
+        refused("plug(0, 0)", Boxes::some, STATE, plug, 0, 0);
+        refused("plug(2, 2)", Boxes::some, STATE, plug, 2, 2);
+        refused("plug(3, 0), it is off", Boxes::some, STATE, plug, 3, 0);
+        refused("plug(4, 1), the LINE is DEAD", Boxes::some, STATE, plug, 4, 1);
+        refused("mend(0)", Boxes::some, STATE, (x, a) -> x.mend(0));
+        refused("mend(2), a coil", Boxes::some, STATE, (x, a) -> x.mend(2));
+        refused("mend(0), not LIVE, but not DEAD", Boxes::mainOut, STATE, (x, a) -> x.mend(0));
+        refused("mains(), it is in", Boxes::some, STATE, (x, a) -> x.mains());
         Supplier<FuseBox> fresh = () -> Due.box("m9;w1;t0,1,0;");
         refused("undo(), none yet", fresh, STATE, (x, a) -> x.undo());
         refused("undo(), none any more", () -> undone(5), STATE, (x, a) -> x.undo());
@@ -424,7 +374,7 @@ public final class RefusalTest {
 
     private static void stateOfImages() {
         DUE.at("restore: STATE: none was kept");
-        refused("restore(1), only 0 was kept", RefusalTest::some, STATE, (x, a) -> x.restore(1));
+        refused("restore(1), only 0 was kept", Boxes::some, STATE, (x, a) -> x.restore(1));
         Supplier<FuseBox> other = () -> {
             FuseBox x = Due.box("m9;w1;t0,1,1;");
             x.minutes(3);

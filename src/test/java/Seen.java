@@ -1,41 +1,70 @@
 import java.util.ArrayList;
+import java.util.LinkedHashMap;
 import java.util.List;
+import java.util.Map;
 
-/** All that a box tells, but status(): what only looks comes first, then what changes the box. It is used up by it. */
+/**
+ * All that a box tells, but status(), by the part of it that tells it: what only looks comes first, then what changes
+ * the box. It is used up by it.
+ */
 final class Seen {
+    static final String HOUSE = "HOUSE", TRACE = "TRACE", TAPE = "TAPE", IMAGE_0 = "IMAGE 0", IMAGE_1 = "IMAGE 1", ROWS = "ROWS";
+
     private final FuseBox x;
-    private final List<String> answers = new ArrayList<>();
+    private final Map<String, List<String>> parts = new LinkedHashMap<>();
+    private List<String> answers;
 
     private Seen(FuseBox x) {
         this.x = x;
     }
 
+    static Map<String, List<String>> parts(FuseBox x) {
+        Seen seen = new Seen(x);
+        seen.all();
+        return seen.parts;
+    }
+
     static List<String> of(FuseBox x) {
-        return new Seen(x).all(true);
+        return together(parts(x));
     }
 
     /** Without the tape and the fault, which a text that has one does change. */
     static List<String> withoutTape(FuseBox x) {
-        return new Seen(x).all(false);
+        Map<String, List<String>> parts = parts(x);
+        parts.remove(TAPE);
+        return together(parts);
     }
 
-    private List<String> all(boolean tape) {
-        look();
+    private static List<String> together(Map<String, List<String>> parts) {
+        List<String> all = new ArrayList<>();
+        parts.values().forEach(all::addAll);
+        return all;
+    }
+
+    private void all() {
+        part(TRACE);
         trace();
-        if (tape) {
-            add("count(9)", x.count(9));
-            add("fault()", x.fault());
-        }
+        part(ROWS);
+        add("count(0)", x.count(0));
+        part(TAPE);
+        add("count(9)", x.count(9));
+        add("fault()", x.fault());
+        part(HOUSE);
+        look();
         undoAll();
-        images();
-        if (tape) {
-            add("house() of the tape", x.house());
-            add("fault() of the tape", x.fault());
-        } else {
-            x.house();
-        }
+        part(IMAGE_0);
+        image(0);
+        part(IMAGE_1);
+        image(1);
+        part(TAPE);
+        add("house() of the tape", x.house());
+        add("fault() of the tape", x.fault());
+        part(ROWS);
         rows();
-        return answers;
+    }
+
+    private void part(String name) {
+        answers = parts.computeIfAbsent(name, n -> new ArrayList<>());
     }
 
     private void add(String call, int answer) {
@@ -43,7 +72,7 @@ final class Seen {
     }
 
     private void look() {
-        for (int what = 0; what < 9; what++) {
+        for (int what = 1; what < 9; what++) {
             add("count(" + what + ")", x.count(what));
         }
         for (int l = 0; l < 4; l++) {
@@ -74,17 +103,16 @@ final class Seen {
         }
     }
 
-    private void images() {
-        for (int k = 0; k < 2; k++) {
-            add("restore(" + k + ")", x.restore(k));
-            for (int what = 1; what < 9; what++) {
-                add("count(" + what + ") of image " + k, x.count(what));
-            }
-            for (int l = 0; l < 4; l++) {
-                add("HEAT of image " + k, x.line(l, 1));
-                add("RATE of image " + k, x.line(l, 0));
-                add("things of image " + k, x.line(l, 5));
-            }
+    private void image(int k) {
+        int answer = x.restore(k);
+        add("restore(" + k + ")", answer);
+        for (int what = 1; answer == 1 && what < 9; what++) {
+            add("count(" + what + ") of image " + k, x.count(what));
+        }
+        for (int l = 0; answer == 1 && l < 4; l++) {
+            add("HEAT of image " + k, x.line(l, 1));
+            add("RATE of image " + k, x.line(l, 0));
+            add("things of image " + k, x.line(l, 5));
         }
     }
 
